@@ -34,17 +34,14 @@ public final class ArrayMaker {
     private final MadeArray[] arrays = new MadeArray[MOST_ARRAYS];
     // For each place of an array that is being made, the cell that its item comes from.
     private final int[] sources = new int[MOST_ITEMS];
-    private int made;
-    private int code;
-    private int which;
+    private int made = 0;
+    private int code = DONE;
+    private int which = NONE;
 
     public ArrayMaker() {
         for (int n = 0; n < MOST_ARRAYS; n++) {
             arrays[n] = new MadeArray();
         }
-        made = 0;
-        code = DONE;
-        which = NONE;
     }
 
     public int code() {

@@ -44,6 +44,21 @@ public final class ItemTest {
         c.ok("sum", c.x.sum(t), 250);
     }
 
+    private static void everythingAtOnce() {
+        Checks c = new Checks("promise 13, ragged beside 24 tables of 500 rows");
+        for (int n = 0; n < 24; n++) {
+            c.x.range(1, 500);
+            c.x.range(1, 1);
+            c.due("make", c.x.make(4), n);
+        }
+        for (int n = 0; n < 430; n++) {
+            c.due("ragged", c.x.ragged(n % 24, 1 + n, 100), 1);
+        }
+        c.ok("about ITEMS of the first", c.x.about(0, 2), 500 + 18 * 99);
+        c.ok("put, the last row", c.x.put(23, 500, 1, 0, 4), 1);
+        c.ok("sum", c.x.sum(23), 4);
+    }
+
     private static void without() {
         Checks c = new Checks("promise 14, without");
         int t = c.made(4, -1, 1, 0, 2);
@@ -115,6 +130,8 @@ public final class ItemTest {
         c.beyond("get, j less LOW wraps from below", c.x.get(top, 1, MIN, 0), 1);
         c.x.ragged(top, 1, 5);
         c.ok("get at the top of a ragged row", c.x.get(top, 1, MAX, 0), 0);
+        c.beyond("get, j less LOW wraps into a ragged row", c.x.get(top, 1, MIN, 0), 1);
+        c.beyond("put, j less LOW wraps into a ragged row", c.x.put(top, 1, MIN + 1, 0, 1), 1);
         c.beyond("get, i ahead of no row", c.x.get(t, 2, MAX, 0), 0);
         c.x.without(t, 1);
         c.stopped("get, no row ahead of j", c.x.get(t, 1, MAX, 0), 1);
@@ -162,14 +179,20 @@ public final class ItemTest {
         c.ok("empty, twice", c.x.empty(boxes, 1, 2, 0), 1);
         c.beyond("empty, i", c.x.empty(boxes, 2, 3, 0), 0);
         c.beyond("empty, j", c.x.empty(boxes, 1, 3, 0), 1);
+        c.x.put(boxes, 1, 1, 0, 6);
+        c.x.raw(0, 500);
+        c.x.raw(0, 500);
+        c.ok("get of a box, when much has been made", c.x.get(boxes, 1, 1, 0), 6);
+        c.stopped("get of nothing, when much has been made", c.x.get(boxes, 1, 2, 0), 1);
         c.stopped("empty of longs, ahead of items", c.x.empty(c.x.raw(2, 1), 9, 0, 0), 2);
         c.stopped("empty of tables", c.x.empty(c.made(4, 1, 1, 1, 1), 1, 1, 0), 2);
-        c.stopped("empty, no array", c.x.empty(3, 0, 0, 0), 7);
+        c.stopped("empty, no array", c.x.empty(5, 0, 0, 0), 7);
     }
 
     public static void main(String[] args) {
         ragged();
         manyRagged();
+        everythingAtOnce();
         without();
         tie();
         get();

@@ -76,6 +76,9 @@ public final class JoinTest {
         way(2, -7, 2, 4, -3);
         way(2, 7, -2, 4, -3);
         way(2, MIN, -1, 4, MIN);
+        way(2, 7, 1, 4, 7);
+        way(2, 0, 9, 4, 0);
+        way(2, 7, 1, 5, 0);
         way(2, -7, 2, 5, -1);
         way(2, 7, -2, 5, 1);
         way(2, MIN, -1, 5, 0);

@@ -36,6 +36,8 @@ public final class NumberTest {
             c.x.put(a, 0, 0, 0, -5);
             c.x.put(a, 1, 0, 0, -6);
             c.ok("mean, towards 0", c.x.mean(a), -2);
+            c.x.get(a, 4, 0, 0);
+            c.ok("mean behind another code", c.x.mean(a), -2);
             c.x.put(a, 2, 0, 0, 30);
             c.ok("mean", c.x.mean(a), 4);
             c.stopped("mean of no items", c.x.mean(c.x.raw(kind, 0)), 6);
@@ -81,6 +83,8 @@ public final class NumberTest {
         int a = c.x.raw(1, 0);
         int b = c.x.raw(1, 0);
         c.ok("same, itself", c.x.same(a, a), 1);
+        c.x.get(a, 4, 0, 0);
+        c.ok("same behind another code", c.x.same(a, a), 1);
         c.ok("same, two rows of no items", c.x.same(a, b), 0);
         c.shape(1, 0, 1, 0);
         c.ok("same, seen", c.x.same(c.x.see(a), a), 1);
@@ -92,6 +96,10 @@ public final class NumberTest {
         c.ok("same, one row of two", c.x.same(t, u), 0);
         c.x.tie(u, 8, t, 1);
         c.ok("same, the second is the first", c.x.same(t, u), 0);
+        c.x.tie(u, 7, t, 2);
+        c.x.tie(u, 8, t, 2);
+        c.ok("same, the first is the second", c.x.same(t, u), 0);
+        c.x.tie(u, 7, t, 1);
         c.x.tie(u, 8, t, 2);
         c.ok("same, both rows", c.x.same(t, u), 1);
         c.x.without(u, 8);
@@ -107,8 +115,25 @@ public final class NumberTest {
         c.ok("same, tables and ints", c.x.same(t, a), 0);
         c.ok("same, ints and tables", c.x.same(a, t), 0);
         c.ok("same, tables without rows", c.x.same(c.made(4, 1, 0, 1, 1), c.made(4, 2, 1, 1, 9)), 1);
-        c.stopped("same, no first", c.x.same(9, a), 7);
+        int two = c.x.raw(1, 2);
+        c.ok("same, tables and ints of as many", c.x.same(t, two), 0);
+        c.ok("same, ints and tables of as many", c.x.same(two, t), 0);
+        c.stopped("same, no first", c.x.same(19, a), 7);
         c.stopped("same, no second", c.x.same(a, -1), 7);
+    }
+
+    private static void sameBehindClear() {
+        Checks c = new Checks("promise 25, same behind clear");
+        c.x.raw(1, 2);
+        c.x.raw(1, 2);
+        c.x.clear();
+        int ints = c.x.raw(1, 2);
+        int other = c.made(4, 1, 2, 1, 1);
+        c.ok("same, ints and tables", c.x.same(ints, other), 0);
+        c.x.clear();
+        int table = c.made(4, 1, 0, 1, 1);
+        int first = c.x.raw(1, 2);
+        c.ok("same, tables where ints were", c.x.same(table, first), 0);
     }
 
     private static void compare() {
@@ -134,6 +159,13 @@ public final class NumberTest {
         c.x.put(low, 0, 0, 0, Long.MIN_VALUE);
         c.x.put(high, 0, 0, 0, Long.MAX_VALUE);
         c.ok("compare, far apart", c.x.compare(low, high), -1);
+        int shorter = c.x.raw(2, 1);
+        int longer = c.x.raw(2, 2);
+        c.x.put(longer, 0, 0, 0, 50);
+        c.ok("compare, a low item first", c.x.compare(shorter, longer), -1);
+        c.x.put(longer, 0, 0, 0, 0);
+        c.x.put(longer, 1, 0, 0, -50);
+        c.ok("compare, by how many, whatever the items", c.x.compare(longer, shorter), 1);
         int boxes = c.x.raw(3, 1);
         int table = c.made(4, 1, 1, 1, 1);
         c.stopped("compare of boxes", c.x.compare(boxes, boxes), 2);
@@ -175,6 +207,17 @@ public final class NumberTest {
         c.due("clear(), 24", clearedFull(c), 24);
     }
 
+    private static void manyClears() {
+        Checks c = new Checks("promise 27, clear again and again");
+        for (int n = 0; n < 20; n++) {
+            for (int a = 0; a < 24; a++) {
+                c.due("raw, as at first", c.x.raw(2, 500), a);
+            }
+            c.due("put", c.x.put(23, 499, 0, 0, n), 1);
+            c.due("clear()", c.x.clear(), 24);
+        }
+    }
+
     private static int clearedFull(Checks c) {
         c.fillUp();
         return c.x.clear();
@@ -185,8 +228,10 @@ public final class NumberTest {
         mean();
         about();
         same();
+        sameBehindClear();
         compare();
         clear();
+        manyClears();
         Checks.end();
     }
 }

@@ -97,6 +97,12 @@ public final class ViewTest {
         int none = c.made(2, MIN, MAX, 0, 5, 1, 0);
         c.ok("turn of nothing", c.x.turn(none), none + 1);
         c.ok("about HIGH 1", c.x.about(none + 1, 6), MAX);
+        int single = c.made(2, 3, 3, 4, 4);
+        c.x.put(single, 3, 4, 0, 31);
+        c.ok("turn of one item", c.x.get(c.x.turn(single), 4, 3, 0), 31);
+        int full = c.made(2, 1, 250, 1, 2);
+        c.x.put(full, 250, 1, 0, 32);
+        c.ok("turn of 500 items", c.x.get(c.x.turn(full), 1, 250, 0), 32);
         int row = c.x.raw(1, 4);
         c.stopped("turn of one dimension", c.x.turn(row), 9);
         int table = c.made(4, 1, 2, 1, 2);
@@ -164,6 +170,10 @@ public final class ViewTest {
         c.x.put(top, MAX, 0, 0, 12);
         c.shape(MAX - 1, MAX);
         c.ok("get at the top", c.x.get(c.x.cut(top), MAX, 0, 0), 12);
+        int full = c.x.raw(1, 500);
+        c.x.put(full, 499, 0, 0, 44);
+        c.shape(0, 499);
+        c.ok("cut of all 500", c.x.get(c.x.cut(full), 499, 0, 0), 44);
         int table = c.made(4, 1, 2, 1, 2);
         c.stopped("cut of tables", c.x.cut(table), 2);
         c.fillUp();
