@@ -870,10 +870,17 @@ public final class ArrayMaker {
             if (wanted > numbers.length) {
                 int size = Math.max(wanted, 2 * numbers.length);
                 numbers = Arrays.copyOf(numbers, size);
-                boolean[] grown = new boolean[size];
-                System.arraycopy(filled, 0, grown, 0, cellCount);
-                filled = grown;
+                filled = grown(filled, size);
             }
+        }
+
+        // The library's copies are for arrays of numbers alone.
+        private static boolean[] grown(boolean[] marks, int size) {
+            boolean[] longer = new boolean[size];
+            for (int n = 0; n < marks.length && n < size; n++) {
+                longer[n] = marks[n];
+            }
+            return longer;
         }
 
         int addRow(int length, boolean fillIt) {

@@ -128,6 +128,35 @@ public final class FaceTest {
         }
     }
 
+    /** Each call that makes a row, where the store is just full, nearly full and more. */
+    private static void growingStore() {
+        for (int rows = 0; rows < 140; rows++) {
+            for (int call = 0; call < 7; call++) {
+                ArrayMaker x = new ArrayMaker();
+                x.raw(1, 1);
+                x.range(0, 0);
+                x.range(0, 0);
+                int square = x.see(0);
+                x.put(square, 0, 0, 0, 7);
+                x.range(1, rows);
+                x.range(1, 1);
+                int table = x.make(4);
+                x.range(0, 0);
+                x.range(0, 0);
+                boolean done = switch (call) {
+                    case 0 -> x.make(1) == 3;
+                    case 1 -> x.raw(1, 1) == 3;
+                    case 2 -> x.turn(square) == 3 && x.sum(3) == 7;
+                    case 3 -> x.cut(square) == 3 && x.sum(3) == 7;
+                    case 4 -> x.deep(square) == 3 && x.sum(3) == 7;
+                    case 5 -> x.flat(table) == 3 && x.about(3, 2) == rows;
+                    default -> rows == 0 || x.ragged(table, rows, 2) == 1;
+                };
+                check(done && x.code() == 0 && x.get(square, 0, 0, 0) == 7, "call " + call + " behind " + rows + " rows");
+            }
+        }
+    }
+
     /** A table's rows made anew until the store refuses them, then everything else. */
     private static void fullStore() {
         ArrayMaker x = new ArrayMaker();
@@ -152,6 +181,7 @@ public final class FaceTest {
         face();
         classesInside();
         neverThrows();
+        growingStore();
         fullStore();
         System.out.println(wrong ? "the face is not as due" : "the face is as due");
         if (wrong) {

@@ -209,7 +209,7 @@ public final class NumberTest {
 
     private static void manyClears() {
         Checks c = new Checks("promise 27, clear again and again");
-        for (int n = 0; n < 20; n++) {
+        for (int n = 0; n < 19; n++) {
             for (int a = 0; a < 24; a++) {
                 c.due("raw, as at first", c.x.raw(2, 500), a);
             }
