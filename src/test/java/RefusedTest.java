@@ -288,6 +288,8 @@ public final class RefusedTest {
     private static void rowsOfTables() {
         refused("ragged 7 ahead of 4", ANY, 7, x -> x.ragged(NO_SUCH, 9, -1));
         refused("ragged 2 ahead of 3, 4", ANY, 2, x -> x.ragged(INTS_2_BY_3, 9, -1));
+        refused("ragged 7 ahead of 5", ANY, 7, x -> x.ragged(-1, 1, 101));
+        refused("ragged 2 ahead of 5", ANY, 2, x -> x.ragged(INTS_2_BY_3, 1, 101));
         beyond("ragged 3 ahead of 4", ANY, 0, x -> x.ragged(TABLE, 3, -1));
         beyond("ragged 3 ahead of 5", ANY, 0, x -> x.ragged(TABLE, 0, 101));
         beyond("ragged 3, no ROW", ANY, 0, x -> x.ragged(TABLE_NO_ROW, 1, 1));
@@ -343,6 +345,8 @@ public final class RefusedTest {
         refused("join 2, TABLES", ANY, 2, x -> x.join(TABLE, TABLE, 1));
         refused("join 2, TABLES and INTS", ANY, 2, x -> x.join(TABLE, INTS_2_BY_3, 1));
         refused("join 2, INTS and TABLES", ANY, 2, x -> x.join(INTS_2_BY_3, TABLE, 1));
+        refused("join 2, unlike, ahead of 6", ANY, 2, x -> x.join(LONGS_4, BYTES_4, 4));
+        refused("join 2, unlike, ahead of 1, 10", ANY, 2, x -> x.join(LONGS_4, BOXES_3, 0));
         refused("join 10 ahead of 6", ANY, 10, x -> x.join(LONGS_4, LONGS_SEEN, 4));
         refused("join 10 ahead of 1", ANY, 10, x -> x.join(BOXES_NONE, BOXES_3, 0));
         refused("join 10, none", ANY, 10, x -> x.join(LONGS_4, LONGS_NONE, 0));
